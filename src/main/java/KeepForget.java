@@ -861,11 +861,14 @@ public final class KeepForget {
         void readInto(RuleSet set) {
             next();
             // One round more than there may be rules: the 25th is a fault.
-            for (int r = 0; r <= MOST_RULES && fault == 0 && token != OVER; r++) {
-                readRule(set);
+            for (int r = 0; r <= MOST_RULES && token != OVER; r++) {
+                if (!readRule(set)) {
+                    return;
+                }
             }
         }
 
+        /** As all that read: true if there was no fault. */
         private boolean readRule(RuleSet set) {
             int sort = ruleSort();
             if (sort == NONE) {
@@ -882,9 +885,13 @@ public final class KeepForget {
             if (sort == Rule.PLACE ? !readStores(rule) : !readTime(rule)) {
                 return false;
             }
-            if (!readTail(rule)) {
+            if (!readTests(rule) || !readRank(rule)) {
                 return false;
             }
+            if (!isSign(';')) {
+                return fail(CANNOT_STAND);
+            }
+            next();
             set.add(rule);
             return true;
         }
@@ -914,10 +921,11 @@ public final class KeepForget {
         }
 
         private boolean readTime(Rule rule) {
-            rule.amount = readNumber();
-            if (rule.amount == NONE) {
+            if (!isNumber()) {
                 return false;
             }
+            rule.amount = number();
+            next();
             if (!isWord("days") && !isWord("months") && !isWord("years")) {
                 return fail(CANNOT_STAND);
             }
@@ -952,27 +960,9 @@ public final class KeepForget {
             return true;
         }
 
-        private boolean readTail(Rule rule) {
-            if (isWord("if") && !readTests(rule)) {
-                return false;
-            }
-            if (isWord("rank")) {
-                next();
-                rule.rank = readNumber();
-                if (rule.rank == NONE) {
-                    return false;
-                }
-            }
-            if (!isSign(';')) {
-                return fail(CANNOT_STAND);
-            }
-            next();
-            return true;
-        }
-
-        /** From the 'if' on: each round begins at it or at an 'and'. */
         private boolean readTests(Rule rule) {
-            boolean more = true;
+            boolean more = isWord("if");
+            // One round more than there may be tests: the fifth is a fault.
             for (int i = 0; i <= MOST_TESTS && more; i++) {
                 next();
                 if (!readTest(rule)) {
@@ -996,34 +986,48 @@ public final class KeepForget {
             if (!isSign('=') && !isSign('<')) {
                 return fail(CANNOT_STAND);
             }
-            boolean isLess = isSign('<');
+            rule.testFacts[at] = fact;
+            rule.testIsLess[at] = isSign('<');
             next();
-            int number = readNumber();
-            if (number == NONE) {
+            if (!isNumber()) {
                 return false;
             }
-            rule.testFacts[at] = fact;
-            rule.testIsLess[at] = isLess;
-            rule.testNumbers[at] = number;
+            rule.testNumbers[at] = number();
             rule.testCount++;
+            next();
             return true;
         }
 
-        /** NONE with a fault. */
-        private int readNumber() {
-            if (token != NUMBER || end - start > MOST_DIGITS) {
-                fail(token != NUMBER ? CANNOT_STAND : TOO_MUCH);
-                return NONE;
+        private boolean readRank(Rule rule) {
+            if (!isWord("rank")) {
+                return true;
             }
+            next();
+            if (!isNumber()) {
+                return false;
+            }
+            rule.rank = number();
+            next();
+            return true;
+        }
+
+        /** A fault if it is none, or too long a one. */
+        private boolean isNumber() {
+            if (token != NUMBER) {
+                return fail(CANNOT_STAND);
+            }
+            return end - start <= MOST_DIGITS || fail(TOO_MUCH);
+        }
+
+        private int number() {
             int number = 0;
             for (int i = start; i < end; i++) {
                 number = number * 10 + text[i] - '0';
             }
-            next();
             return number;
         }
 
-        /** Always false, so that a reading method can end with it. */
+        /** Always false, so that what reads can end with it. */
         private boolean fail(int what) {
             fault = what;
             faultPlace = start;

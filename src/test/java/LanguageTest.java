@@ -118,10 +118,10 @@ public final class LanguageTest {
             for (String pattern : FORBIDDEN) {
                 right("line " + (i + 1) + " has " + pattern, !java.util.regex.Pattern.compile(pattern).matcher(code).find());
             }
-            if (code.matches(" {4,8}[A-Za-z].*\\) .*\\{|  {4,8}[A-Za-z].*\\) \\{") && !code.matches("\\s*(if|for|while|switch)\\b.*")) {
+            if (code.matches(" {4}( {4})?[A-Za-z].*\\(.*\\{")) {
                 methodStart = i;
             }
-            if (methodStart >= 0 && code.matches(" {4,8}\\}")) {
+            if (methodStart >= 0 && code.matches(" {4}( {4})?\\}")) {
                 right("a short method at line " + (methodStart + 1), i - methodStart <= 60);
             }
         }

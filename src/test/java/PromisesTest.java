@@ -196,6 +196,12 @@ public final class PromisesTest {
         is("the whole tape is empty", k.count(8), 0);
         Checks.lay(k, "end any all 1 days from e0;end");
         is("only the first n bytes", k.rules(27, 0), 2);
+        Checks.lay(k, "keepsake");
+        is("a word is cut", k.rules(4, 0), -2);
+        is("behind its bytes", k.fault(), 4);
+        Checks.lay(k, "end any f0 12345");
+        is("a number is cut", k.rules(15, 0), -2);
+        is("behind its bytes", k.fault(), 15);
         for (int i = 3; i < 8; i++) {
             is("a faulty set is none", Checks.tell(k, "end", 0), -2);
             is("more sets", Checks.tell(k, "place any all s0;", 0), i);
@@ -238,6 +244,16 @@ public final class PromisesTest {
         bad("keep  ", 1, 6);
         bad("keepx", 1, 0);
         bad("kee", 1, 0);
+        bad("keepz", 1, 0);
+        bad("keepa", 1, 0);
+        bad("keep9", 1, 0);
+        bad("keep0", 1, 0);
+        bad("keep{", 1, 4);
+        bad("keep`", 1, 4);
+        bad("keep:", 1, 4);
+        bad("keep/", 1, 4);
+        bad("beep any", 1, 0);
+        bad("place any ball", 1, 10);
         bad(" Keep", 1, 1);
         bad("\tkeep", 1, 0);
         bad("\r", 1, 0);
@@ -249,6 +265,7 @@ public final class PromisesTest {
         bad("\u00ff", 1, 0);
         bad("\u00eb", 1, 0);
         bad("keep#", 1, 4);
+        bad("keep place x", 1, 5);
         bad("keep k4 all 1 days from e0;", 1, 5);
         bad("keep k all 1 days from e0;", 1, 5);
         bad("keep k00 all 1 days from e0;", 1, 5);
@@ -538,6 +555,12 @@ public final class PromisesTest {
         is("open ones", k.count(7), 2);
         is("lift", k.lift(1), true);
         is("lifted", k.why(0, 1), 0);
+        KeepForget later = with("");
+        later.hold(0, 3);
+        later.hold(0, 6);
+        is("lift the later one", later.lift(1), true);
+        is("the first has it still", later.why(0, 1), 1);
+        is("lifted", later.why(0, 2), 3);
         for (int n : new int[] {-1, 3, MIN, MAX}) {
             Checks.noSuch("no such hold", () -> k.lift(n) ? 1 : 0);
         }
@@ -805,6 +828,12 @@ public final class PromisesTest {
         k.days(1);
         is("by the set in force now", k.misplaced(), 4 + 3 + 3);
         is("they stay", k.count(6), 12);
+        for (int s = 0; s < 4; s++) {
+            KeepForget one = with("");
+            one.copy(0, 0, s);
+            Checks.tell(one, s == 2 ? "place any all s1;" : "place any all s2;", 0);
+            is("one alone", one.misplaced(), 1);
+        }
     }
 
     private static void planned() {
@@ -993,6 +1022,23 @@ public final class PromisesTest {
         line(k, 0, 0, 0, 0, 5, 0);
         line(k, 1, 0, 1, 0, 10, 2);
         is("late by the new set", k.count(5), 1);
+        // a set that comes while the days go by, and the only one there is
+        KeepForget only = new KeepForget();
+        only.thing(0);
+        only.event(0, 0, 0);
+        only.copy(0, 0, 3);
+        Checks.tell(only, "keep any all 8 days from e0; end any all 9 days from e0;", 5);
+        only.days(20);
+        line(only, 0, 0, 0, 3, 8, 1);
+        is("in time", only.count(5), 0);
+        // each field in each store on its day, whatever else there is
+        for (int i = 0; i < 32; i++) {
+            KeepForget one = with("keep any all 8 days from e0; end any all 9 days from e0;");
+            one.event(0, 0, 0);
+            one.copy(0, i / 4, i % 4);
+            one.days(20);
+            line(one, 0, 0, i / 4, i % 4, 8, 1);
+        }
         // a set that comes in force for a while only
         KeepForget w = with("");
         w.event(0, 0, 0);
