@@ -622,10 +622,10 @@ public final class KeepForget {
 
         /** The first day that is not before the one told and on which the store sweeps. */
         int firstFrom(int day) {
-            if (day <= first || every < 1) {
+            if (day <= first) {
                 return first;
             }
-            int past = (day - first) % every;
+            int past = every < 1 ? 0 : (day - first) % every;
             int sweepDay = past == 0 ? day : day + every - past;
             return sweepDay > LAST_DAY ? NEVER : sweepDay;
         }
@@ -921,7 +921,7 @@ public final class KeepForget {
         }
 
         private boolean readTime(Rule rule) {
-            if (!isNumber()) {
+            if (!checkNumber()) {
                 return false;
             }
             rule.amount = number();
@@ -989,7 +989,7 @@ public final class KeepForget {
             rule.testFacts[at] = fact;
             rule.testIsLess[at] = isSign('<');
             next();
-            if (!isNumber()) {
+            if (!checkNumber()) {
                 return false;
             }
             rule.testNumbers[at] = number();
@@ -1003,7 +1003,7 @@ public final class KeepForget {
                 return true;
             }
             next();
-            if (!isNumber()) {
+            if (!checkNumber()) {
                 return false;
             }
             rule.rank = number();
@@ -1012,7 +1012,7 @@ public final class KeepForget {
         }
 
         /** A fault if it is none, or too long a one. */
-        private boolean isNumber() {
+        private boolean checkNumber() {
             if (token != NUMBER) {
                 return fail(CANNOT_STAND);
             }
