@@ -8,7 +8,10 @@ import java.nio.file.Path;
 import java.util.ArrayList;
 import java.util.Arrays;
 import java.util.List;
+import java.util.Map;
+import java.util.NoSuchElementException;
 import java.util.Set;
+import java.util.TreeMap;
 import java.util.TreeSet;
 
 /** The rules of LANGUAGE.md that the source or the compiled class shows; run in the project's folder. */
@@ -20,6 +23,8 @@ public final class LanguageTest {
         "boolean lift(int)", "int wish(int)", "int span(int,int,int,int)", "int lost(int,int,int,int)",
         "int why(int,int)", "int places(int,int)", "int misplaced()", "int planned(int,int,int)", "int differ(int,int)",
         "boolean bites(int,int)", "int days(int)", "int entry(int,int)", "int count(int)");
+    /** The exceptions of the document's face; each other call of it has none. */
+    private static final Map<String, List<Class<?>>> THROWN = thrown();
     private static final List<String> FORBIDDEN = List.of("\\btry\\b", "\\bcatch\\b", "\\bfinally\\b", "->", "::",
         "\\bsynchronized\\b", "\\bassert\\b", "\\bstatic\\s*\\{", "^package\\b", "\\bdouble\\b", "\\bfloat\\b",
         "\\bObject\\b", "\\bSystem\\b", "\\bThread\\b", "\\bvar\\b", "\\bnative\\b", "Exact\\b", "\\bhashCode\\b", "\" \\+|\\+ \"");
@@ -47,6 +52,23 @@ public final class LanguageTest {
         return text.append(")").toString();
     }
 
+    private static Map<String, List<Class<?>>> thrown() {
+        Map<String, List<Class<?>>> all = new TreeMap<>();
+        for (String name : "day date later rules days".split(" ")) {
+            all.put(name, List.of(IllegalArgumentException.class));
+        }
+        for (String name : "fact event store".split(" ")) {
+            all.put(name, List.of(NoSuchElementException.class, IllegalArgumentException.class));
+        }
+        for (String name : "copy copies hold lift wish span lost why places planned differ bites entry count".split(" ")) {
+            all.put(name, List.of(NoSuchElementException.class));
+        }
+        for (String name : "feed fault thing misplaced".split(" ")) {
+            all.put(name, List.of());
+        }
+        return all;
+    }
+
     private static void face() {
         Class<?> c = KeepForget.class;
         right("public and final", Modifier.isPublic(c.getModifiers()) && Modifier.isFinal(c.getModifiers()));
@@ -55,6 +77,7 @@ public final class LanguageTest {
             if (!Modifier.isPrivate(m.getModifiers())) {
                 seen.add(told(m));
                 right("a public method of the object: " + m, m.getModifiers() == Modifier.PUBLIC);
+                right("the exceptions of " + m, List.of(m.getExceptionTypes()).equals(THROWN.get(m.getName())));
             }
         }
         right("the face: " + seen, seen.equals(new TreeSet<>(FACE)));

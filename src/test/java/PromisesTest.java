@@ -2,11 +2,8 @@ import java.time.LocalDate;
 import java.time.temporal.ChronoUnit;
 
 /** Each promise by itself: ordinary inputs, the edges that the document names, wrong inputs. */
-public final class PromisesTest {
+public final class PromisesTest extends Checks {
     private static final LocalDate FIRST = LocalDate.of(2000, 1, 1);
-    private static final int LAST = 200000;
-    private static final int MIN = Integer.MIN_VALUE;
-    private static final int MAX = Integer.MAX_VALUE;
 
     private PromisesTest() {
     }
@@ -51,22 +48,6 @@ public final class PromisesTest {
         logIsFull();
         count();
         Checks.end();
-    }
-
-    private static void is(String call, long got, long want) {
-        Checks.due(call, got, want);
-    }
-
-    private static void is(String call, boolean got, boolean want) {
-        Checks.due(call, got, want);
-    }
-
-    /** An object with one thing of kind 0 and one set from day 0 on. */
-    private static KeepForget with(String text) {
-        KeepForget k = new KeepForget();
-        k.thing(0);
-        is("rules of " + text, Checks.tell(k, text, 0), 0);
-        return k;
     }
 
     // ---- 1
@@ -594,13 +575,6 @@ public final class PromisesTest {
 
     // ---- 17, 18
 
-    /** All five parts of a field's span, by the set in force. */
-    private static void spanIs(KeepForget k, int field, int... want) {
-        for (int what = 0; what < 5; what++) {
-            is("span of field " + field + ", part " + what, k.span(0, field, -1, what), want[what]);
-        }
-    }
-
     private static void span() {
         KeepForget none = new KeepForget();
         none.thing(0);
@@ -955,12 +929,6 @@ public final class PromisesTest {
         is("nothing is planned after the last day", k.planned(0, 0, 0), Checks.NEVER);
         is("no day sweeps nothing", k.days(0), LAST);
         is("no day sweeps nothing", k.copies(0, 0), 1);
-    }
-
-    private static void line(KeepForget k, int i, int... want) {
-        for (int what = 0; what < 5; what++) {
-            is("entry(" + i + ", " + what + ")", k.entry(i, what), want[what]);
-        }
     }
 
     private static void daysInOrder() {
