@@ -878,6 +878,13 @@ public final class TermsTest extends Checks {
         line(sets, 0, 0, 0, 0, 4, 0);
         line(sets, 1, 0, 2, 0, 9, 0);
         is("field 1 was due on no day", sets.copies(0, 1), 1);
+        KeepForget only = new KeepForget();
+        only.thing(0);
+        only.event(0, 0, 0);
+        only.copy(0, 0, 0);
+        tell(only, "end any all 0 days from e0;", 4);
+        only.days(30);
+        line(only, 0, 0, 0, 0, 4, 0);
     }
 
     private static void storesInOrder() {
