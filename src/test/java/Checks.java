@@ -1,5 +1,7 @@
 import java.nio.charset.StandardCharsets;
 import java.util.NoSuchElementException;
+import java.util.Set;
+import java.util.TreeSet;
 import java.util.function.LongSupplier;
 
 /** What the tests share: telling wrong answers, and laying a text on a tape. A test extends it. */
@@ -17,6 +19,8 @@ abstract class Checks {
     /** The document's words that are tested at the time; null while a test doesn't go by them. */
     private static String words = null;
     private static int sentences = 0;
+    /** The words of which some answer was not as due; BrokenTest looks at them. */
+    private static final Set<String> BROKEN = new TreeSet<>();
 
     /** A test of its own for some words of the document; a wrong answer is told with them. */
     static void sentence(String text, Runnable test) {
@@ -37,6 +41,7 @@ abstract class Checks {
         checked++;
         if (got != want) {
             wrong++;
+            BROKEN.add(words == null ? "" : words);
             if (wrong <= 50) {
                 String where = words == null ? "" : "'" + words + "': ";
                 System.out.println(where + call + " answered " + told(got) + ", due is " + told(want));
@@ -149,12 +154,12 @@ abstract class Checks {
         }
     }
 
-    /** To be called at the end of each test's main. */
+    /** To be called at the end of each test's main: what it throws ends the program with exit code 1. */
     static void end() {
         String of = sentences == 0 ? "" : " for " + sentences + " sentences";
         System.out.println(checked + " answers looked at" + of + ", " + wrong + " not as due");
         if (wrong != 0 || checked == 0) {
-            System.exit(1);
+            throw new AssertionError(wrong + " answers of " + checked + " are not as due");
         }
     }
 }

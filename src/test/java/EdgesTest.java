@@ -657,9 +657,12 @@ public final class EdgesTest extends Checks {
         promise(14, "A HOLD of a THING's FIELDS (bits 0 to 7): its number.", EdgesTest::holdBits);
         promise(14, "NONE: there are 40", EdgesTest::holdFull);
         promise(14, "no bits, or others.", EdgesTest::holdOtherBits);
+        promise(14, "throws NoSuchElementException", EdgesTest::holdNoSuch);
         promise(15, "A HOLD is LIFTED: true. False: it was.", EdgesTest::liftTwice);
         promise(15, "NoSuchElementException: no such HOLD.", EdgesTest::liftNoSuch);
+        promise(16, "A WISH: which FIELDS, as bits, will be DUE at once", EdgesTest::wishBits);
         promise(16, "(those with COPIES, DUE NOW)", EdgesTest::wishDueNow);
+        promise(16, "throws NoSuchElementException", EdgesTest::wishNoSuch);
     }
 
     private static void holdBits() {
@@ -710,6 +713,14 @@ public final class EdgesTest extends Checks {
         is("all bits", k.hold(0, 255), 2);
     }
 
+    private static void holdNoSuch() {
+        KeepForget k = with("");
+        k.thing(0);
+        only("a thing", 0, 1, NO_SUCH_ELEMENT, t -> k.hold(t, 1));
+        is("those that are", k.count(7), 2);
+        noSuch("without bits, too", () -> k.hold(2, 0));
+    }
+
     private static void liftTwice() {
         KeepForget k = with("");
         k.hold(0, 1);
@@ -738,6 +749,36 @@ public final class EdgesTest extends Checks {
         for (int h : new int[] {-1, 2, MIN, MAX}) {
             stays("hold " + h, o -> noSuch("lift", () -> o.lift(h) ? 1 : 0));
         }
+    }
+
+    private static void wishBits() {
+        for (int bits = 0; bits < 256; bits++) {
+            KeepForget k = with("");
+            for (int f = 0; f < 8; f++) {
+                if ((bits >> f & 1) != 0) {
+                    k.copy(0, f, f % 4);
+                }
+            }
+            is("fields with copies: " + bits, k.wish(0), bits);
+        }
+        KeepForget k = with("");
+        k.thing(0);
+        k.copy(0, 3, 0);
+        k.copy(1, 3, 0);
+        is("not wished", k.why(0, 3), 3);
+        is("due then", k.wish(0), 8);
+        is("due", k.why(0, 3), 0);
+        is("the other thing isn't wished", k.why(1, 3), 3);
+        k.days(1);
+        is("ended", k.copies(0, 3), 0);
+        is("the other stays", k.copies(1, 3), 1);
+        is("no copy any more", k.wish(0), 0);
+    }
+
+    private static void wishNoSuch() {
+        KeepForget k = with("");
+        k.thing(0);
+        only("a thing", 0, 1, NO_SUCH_ELEMENT, k::wish);
     }
 
     private static void wishDueNow() {
@@ -1143,6 +1184,7 @@ public final class EdgesTest extends Checks {
     }
 
     private static void counts() {
+        countIs(new KeepForget(), 0, 0, 0, -1, 0, 0, 0, 0, 0, 0);
         KeepForget k = begun("end any f0 0 days from e0; place any all s0 s1;");
         int[] want = {0, 1, 1, 0, 0, 0, 0, 0, 0, 2};
         countIs(k, want);
