@@ -313,7 +313,11 @@ public final class KeepForget {
         Thing it = thingAt(thing);
         checkField(field);
         checkStore(store);
-        return it.hasCopy(field, store) ? plannedDay(it, field, store, setInForce()) : NONE;
+        if (!it.hasCopy(field, store)) {
+            return NONE;
+        }
+        settled.settle(it, field, setInForce());
+        return settledDay(store);
     }
 
     public int differ(int set, int other) throws NoSuchElementException {
@@ -494,8 +498,8 @@ public final class KeepForget {
         return many;
     }
 
-    private int plannedDay(Thing thing, int field, int store, RuleSet set) {
-        settled.settle(thing, field, set);
+    /** On which day a copy in a store ends, if its field's span is the one settled last. */
+    private int settledDay(int store) {
         int earliest = Math.max(now + 1, settled.from);
         return settled.isDue(earliest) ? sweepers[store].firstFrom(earliest) : NEVER;
     }
@@ -514,14 +518,23 @@ public final class KeepForget {
         RuleSet set = setInForce();
         for (int t = 0; t < thingCount; t++) {
             for (int f = 0; f < FIELDS; f++) {
-                for (int s = 0; s < STORES; s++) {
-                    if (things[t].hasCopy(f, s)) {
-                        next = Math.min(next, plannedDay(things[t], f, s, set));
-                    }
+                if (things[t].copies[f] != 0) {
+                    settled.settle(things[t], f, set);
+                    next = Math.min(next, firstSettledDay(things[t].copies[f]));
                 }
             }
         }
         return next;
+    }
+
+    private int firstSettledDay(int stores) {
+        int day = NEVER;
+        for (int s = 0; s < STORES; s++) {
+            if ((stores >> s & 1) != 0) {
+                day = Math.min(day, settledDay(s));
+            }
+        }
+        return day;
     }
 
     private void sweep(int store) {
